@@ -1126,8 +1126,9 @@ public final class SalePlaces {
         int cheapestPoint() {
             int least = Integer.MAX_VALUE;
             int best = 0;
-            for (int y = 0; y <= ground.size; y++) {
-                for (int x = 0; x <= ground.size; x++) {
+            // No RATE is below 0: behind a POINT where nobody taxes there is no cheaper one.
+            for (int y = 0; y <= ground.size && least > 0; y++) {
+                for (int x = 0; x <= ground.size && least > 0; x++) {
                     int sum = ratesOver(x, y);
                     if (sum < least) {
                         least = sum;
