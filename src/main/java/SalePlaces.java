@@ -1357,12 +1357,13 @@ public final class SalePlaces {
             return sum;
         }
 
-        // What is due by now of LINES that are FILED or would be, less what was paid: so what
-        // REFUNDS of FILED LINES made less comes off by itself.
+        // What is due by now of all LINES up to a DAY behind the latest FILING's (those that are
+        // FILED are among them), less what was paid: so what REFUNDS of FILED LINES made less comes
+        // off by itself.
         int unpaid(int day, int p) {
             int sum = 0;
             for (int l = 0; l < count; l++) {
-                if (lines[l].filedBy >= 0 || lines[l].day <= day) {
+                if (lines[l].day <= day) {
                     sum += lines[l].taxOf(p);
                 }
             }

@@ -95,6 +95,7 @@ public final class ActsTest {
         CHECK.told("out at the west", x, x.move(1, 1, -1, 0), -1, 2);
         CHECK.told("out at the south", x, x.move(1, 1, 0, 11), -1, 2);
         CHECK.told("out at the north", x, x.move(1, 1, 0, -1), -1, 2);
+        CHECK.told("the first bound, out", x, x.move(0, 1, 1, 0), -1, 2);
         CHECK.told("no bound", x, x.move(5, 1, 0, 0), -1, 5);
         CHECK.told("no bound, a number first", x, x.move(5, 1, 41, 0), -1, 2);
         CHECK.told("no bound, day -1", x, x.move(5, -1, 0, 0), -1, 2);
@@ -210,6 +211,18 @@ public final class ActsTest {
         CHECK.told("the first ones aren't kept", x, x.undo() ? 1 : 0, 0, 1);
         CHECK.same("nothing can be undone", x.size(1), 0);
         CHECK.same("they stand", x.line(0, 6), 98);
+        for (int k = 0; k < 12; k++) {
+            x.sale(5, 1, 1, 0, 50, 100);
+        }
+        for (int k = 0; k < 12; k++) {
+            x.refund(12 - k, k + 1);
+        }
+        for (int k = 0; k < 8; k++) {
+            x.undo();
+        }
+        for (int l = 1; l <= 12; l++) {
+            CHECK.same("left of line " + l, x.line(l, 6), l < 9 ? 50 : 50 - (13 - l));
+        }
     }
 
     private static String idle(SalePlaces x, int i) {
@@ -246,6 +259,9 @@ public final class ActsTest {
         x.undo();
         x.undo();
         idles("undone", x, "none 0 1 2 3 4 5 none");
+        x.undo();
+        x.sale(0, 5, 15, 0, 1, 1);
+        idles("the first line", x, "none 1 2 3 5 none none none");
     }
 
     private static void size() {

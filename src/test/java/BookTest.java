@@ -122,6 +122,11 @@ public final class BookTest {
         x.undo();
         x.undo();
         CHECK.told("undone ones are gone", x, x.entries(), 4, 0);
+        x = Check.desk(Desks.PLAIN);
+        x.sale(0, 1, 1, 0, 1, 1000);
+        CHECK.told("of the first line", x, x.entries(), 2, 0);
+        CHECK.told("asked again", x, x.entries(), 2, 0);
+        CHECK.told("the first entry", x, x.entry(0, 2), 100, 0);
     }
 
     private static void taxes() {

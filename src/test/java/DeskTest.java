@@ -104,6 +104,11 @@ public final class DeskTest {
         Check.feed(x, Desks.PLAIN + ";class");
         CHECK.told("a part of the tape", x, x.desk(Desks.PLAIN.length()), 2, 0);
         CHECK.same("the rest is gone", x.size(0), 0);
+        Check.feed(x, Desks.PLAIN + "7");
+        CHECK.told("a number cut off", x, x.desk(Desks.PLAIN.length()), 2, 0);
+        CHECK.same("it is what stands ahead", x.rate(1, 0, 0), 500);
+        Check.feed(x, "desk size 5 layers 1;class c;place p layer 0 onlyy");
+        CHECK.told("a word cut off", x, x.desk(49), 1, 0);
         CHECK.told("an empty one", x, x.desk(0), -1, 4);
         CHECK.same("fault", x.fault(), 1);
         CHECK.same("where", x.where(), 0);
@@ -118,6 +123,17 @@ public final class DeskTest {
         CHECK.same("rates", x.about(5), 3);
         CHECK.same("what can be undone", x.size(1), 0);
         CHECK.told("a sale is booked anew", x, x.sale(0, 0, 0, 0, 1, 1), 0, 0);
+        CHECK.told("and isn't filed", x, x.line(0, 9), 0, 0);
+        // Nothing of earlier texts is left, also not of one with a FAULT.
+        String[] texts = {Desks.CITY, Desks.SLOPE, Desks.CITY + ";cap", Desks.CITY, Desks.PLAIN, Desks.CITY};
+        int[] places = {6, 2, -1, 6, 2, 6};
+        int[] due = {20, 3, 4, 6, 6, 6, 1, 2, 0};
+        for (int k = 0; k < texts.length; k++) {
+            CHECK.same("text " + k, Check.read(x, texts[k]), places[k]);
+        }
+        for (int what = 0; what < due.length; what++) {
+            CHECK.told("about(" + what + ") at last", x, x.about(what), due[what], 0);
+        }
     }
 
     private static void about() {

@@ -52,6 +52,8 @@ public final class FaultsTest {
         bad(1, "   ^");
         bad(1, "^;");
         bad(1, "^size 5");
+        bad(1, "^tesk size 5 layers 2");
+        bad(1, D + "class c ^if d");
         bad(1, "^5");
         bad(1, "desk^");
         bad(1, "desk ^layers 2 size 5");
@@ -104,6 +106,10 @@ public final class FaultsTest {
         bad(1, "desk size ^00005");
         bad(1, D + "class c^.");
         bad(1, D + "place p layer ^12345");
+        bad(1, CP + "rate p c 0 ^.");
+        bad(1, CP + "rate p ^.");
+        bad(1, CP + "rate p c 0 5;^.");
+        bad(1, CP + "bound p 0 none^.");
     }
 
     private static void names() {

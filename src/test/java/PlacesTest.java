@@ -131,6 +131,17 @@ public final class PlacesTest {
         CHECK.told("an edge of one point", x, x.onEdge(0, 5, 3, 3), 1, 0);
         CHECK.told("beside one point", x, x.onEdge(0, 5, 3, 4), 0, 0);
         CHECK.told("ahead of its day", x, x.onEdge(0, 4, 3, 3), 0, 0);
+        // EDGES from 2 1 to 6 3 (its middle is a POINT), to 3 9 and back.
+        x = Check.desk("desk size 9 layers 1;class c;place p layer 0;bound p 0 2 1 6 3 3 9");
+        int[][] on = {{2, 1}, {4, 2}, {6, 3}, {5, 5}, {4, 7}, {3, 9}};
+        int found = 0;
+        for (int at = 0; at < 100; at++) {
+            found += x.onEdge(0, 0, at % 10, at / 10);
+        }
+        CHECK.same("how many on slopes", found, on.length);
+        for (int[] row : on) {
+            CHECK.told("on slopes " + row[0], x, x.onEdge(0, 0, row[0], row[1]), 1, 0);
+        }
     }
 
     private static void nextMove() {
@@ -148,6 +159,11 @@ public final class PlacesTest {
         x = Check.desk(Desks.CITY);
         CHECK.told("the first one", x, x.nextMove(3, 0), 10, 0);
         CHECK.told("without any", x, x.nextMove(5, 0), -2, 0);
+        x = Check.desk("desk size 4 layers 1;class c;place p layer 0;bound p 5 0 0 4 0 4 4;bound p 999 none");
+        CHECK.told("the first of all", x, x.nextMove(0, 4), 5, 0);
+        CHECK.told("the last day", x, x.nextMove(0, 5), 999, 0);
+        CHECK.told("the first stack of all", x, x.nextStack(4, 1, 0), 5, 0);
+        CHECK.told("the last day's stack", x, x.nextStack(5, 1, 0), 999, 0);
     }
 
     private static void settled() {
@@ -228,6 +244,10 @@ public final class PlacesTest {
         x = Check.desk(Desks.SLOPE);
         CHECK.told("at either side of a slope", x, x.overlap(0, 1, 0), 0, 0);
         CHECK.told("a square over a slope", x, x.overlap(0, 1, 6), 15, 0);
+        x = Check.desk("desk size 4 layers 1;class c;place p layer 0;place q layer 0;bound p 0 0 0 4 0 4 4 0 4;"
+                + "bound q 0 0 0 2 0 2 4 0 4");
+        CHECK.told("from the first column and row on", x, x.overlap(0, 1, 0), 8, 0);
+        CHECK.told("the first one has them", x, x.points(1, 0), 0, 0);
     }
 
     private static void points() {

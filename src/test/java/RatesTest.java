@@ -59,6 +59,9 @@ public final class RatesTest {
         x = Check.desk("desk size 2 layers 1;class c;place p layer 0;holiday p c 1 9 price 5;holiday p c 3 4 price 8");
         CHECK.told("the dearer of two", x, x.free(0, 0, 3, 8), 1, 0);
         CHECK.told("the longer of two", x, x.free(0, 0, 5, 8), 0, 0);
+        x = Check.desk("desk size 2 layers 1;class c;place p layer 0;place q layer 0;holiday q c 1 9 price 5");
+        CHECK.told("of the second place", x, x.free(1, 0, 1, 5), 1, 0);
+        CHECK.told("not of the first place", x, x.free(0, 0, 1, 5), 0, 0);
     }
 
     private static void cap() {
@@ -126,6 +129,10 @@ public final class RatesTest {
         CHECK.told("each part by itself", x, x.due(5, 0, 0, 0, 1, 10), 2, 0);
         CHECK.told("units ahead of rounding", x, x.due(0, 0, 0, 0, 3, 10), 2, 0);
         CHECK.told("the most", x, x.due(9, 0, 0, 0, 99, 9999), 2 * 247475, 0);
+        x.turn(0, 0, 10, 1);
+        x.turn(1, 0, 10, 0);
+        CHECK.told("just below a half", x, x.due(10, 0, 0, 0, 1, 4999), 0, 0);
+        CHECK.told("just a half", x, x.due(10, 0, 0, 0, 1, 5000), 1, 0);
     }
 
     private static void bestDay() {
@@ -154,7 +161,10 @@ public final class RatesTest {
         CHECK.told("the first of alike ones", x, x.bestDay(0, 998, 0, 0, 0, 10, 100), 8, 0);
         CHECK.told("up to the last day", x, x.bestDay(0, 999, 0, 0, 0, 10, 100), 999, 0);
         CHECK.told("between", x, x.bestDay(1, 7, 0, 0, 0, 10, 100), 4, 0);
-        x.turn(0, 0, 999, 0);
-        CHECK.told("a turned rate isn't behind", x, x.about(5), 6, 0);
+        x = Check.desk("desk size 2 layers 1;class c;class d of c;place p layer 0;bound p 0 0 0 2 0 2 2 0 2;"
+                + "rate p d 3 5;rate p c 0 100");
+        CHECK.told("the first rate told", x, x.bestDay(0, 9, 0, 0, 1, 10, 100), 3, 0);
+        x.turn(0, 1, 7, 0);
+        CHECK.told("a turned one", x, x.bestDay(0, 9, 0, 0, 1, 10, 100), 7, 0);
     }
 }
