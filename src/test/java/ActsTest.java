@@ -119,6 +119,9 @@ public final class ActsTest {
         CHECK.told("no room", x, x.move(0, 5, 0, 0), -1, 3);
         CHECK.told("5 ahead of no room", x, x.move(5, 5, 0, 0), -1, 5);
         CHECK.told("2 ahead of no room", x, x.move(0, 0, 0, 0), -1, 2);
+        x = Check.desk("desk size 5 layers 1;class c;place p layer 0;bound p 0 1 1 2 2 3 3");
+        CHECK.told("corners in a row", x, x.move(0, 1, 2, -1), 2, 0);
+        CHECK.told("moved south by less than 0", x, x.corner(0, 1, 0, 1), 0, 0);
     }
 
     private static void turn() {

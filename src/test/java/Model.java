@@ -374,10 +374,10 @@ public final class Model {
 
     // ---- geometry
 
-    private int[] corners(State t, int p, int day, boolean unused) {
+    private int[] xy(int p, int day) {
         int[] best = new int[0];
         int latest = -1;
-        for (Bound b : t.bounds) {
+        for (Bound b : s.bounds) {
             if (b.place == p && b.day <= day && b.day > latest) {
                 latest = b.day;
                 best = b.xy;
@@ -386,11 +386,7 @@ public final class Model {
         return best;
     }
 
-    private int[] xy(int p, int day) {
-        return corners(s, p, day, false);
-    }
-
-    private boolean in(int p, int day, int x, int y, boolean unused) {
+    private boolean isIn(int p, int day, int x, int y) {
         int[] c = xy(p, day);
         int n = c.length / 2;
         int crossed = 0;
@@ -421,7 +417,7 @@ public final class Model {
 
     private int settledAt(int layer, int day, int x, int y) {
         for (int p = 0; p < s.places.size(); p++) {
-            if (s.places.get(p).layer == layer && in(p, day, x, y, false)) {
+            if (s.places.get(p).layer == layer && isIn(p, day, x, y)) {
                 return p;
             }
         }
@@ -442,7 +438,7 @@ public final class Model {
         return list;
     }
 
-    private List<Integer> line(int c, boolean unused) {
+    private List<Integer> chain(int c) {
         List<Integer> list = new ArrayList<>();
         for (int k = c; k != -2; k = s.classes.get(k)) {
             list.add(k);
@@ -451,7 +447,7 @@ public final class Model {
     }
 
     private int rateOf(int p, int c, int day) {
-        for (int k : line(c, false)) {
+        for (int k : chain(c)) {
             int latest = -1;
             int rate = 0;
             for (Rate r : s.rates) {
@@ -470,7 +466,7 @@ public final class Model {
     private boolean isFree(int p, int c, int day, int price) {
         for (Holiday h : s.holidays) {
             if (h.place == p && day >= h.from && day <= h.till && price <= h.price
-                    && line(c, false).contains(h.good)) {
+                    && chain(c).contains(h.good)) {
                 return true;
             }
         }
@@ -478,7 +474,7 @@ public final class Model {
     }
 
     private int capOf(int p, int c) {
-        for (int k : line(c, false)) {
+        for (int k : chain(c)) {
             Integer cap = s.caps.get(p + " " + k);
             if (cap != null) {
                 return cap;
@@ -647,7 +643,7 @@ public final class Model {
             isPlace(p);
             isDay(day);
             isPoint(x, y);
-            return in(p, day, x, y, false) ? 1 : 0;
+            return isIn(p, day, x, y) ? 1 : 0;
         });
     }
 
@@ -737,7 +733,7 @@ public final class Model {
             for (int at = 0; at < (s.size + 1) * (s.size + 1); at++) {
                 int x = at % (s.size + 1);
                 int y = at / (s.size + 1);
-                sum += in(p, day, x, y, false) && in(q, day, x, y, false) ? 1 : 0;
+                sum += isIn(p, day, x, y) && isIn(q, day, x, y) ? 1 : 0;
             }
             return sum;
         });
