@@ -9,6 +9,13 @@ final class Check {
         }
     }
 
+    void text(String what, String got, String due) {
+        if (!got.equals(due)) {
+            wrong++;
+            System.out.println(what + ": answered " + got + ", due is " + due);
+        }
+    }
+
     /** An answer together with the TROUBLE that it leaves. */
     void told(String what, SalePlaces x, long got, long due, int trouble) {
         same(what, got, due);

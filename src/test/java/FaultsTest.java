@@ -1,6 +1,7 @@
 /** Promises 3 to 5: texts, each with the FAULT that is due and its place ('^' stands ahead of it). */
 public final class FaultsTest {
     private static final Check CHECK = new Check();
+    private static final Texts TEXTS = new Texts(CHECK);
     private static final String D = "desk size 5 layers 2;";
     private static final String CP = D + "class c;class e of c;place p layer 0;place q layer 1 only;";
 
@@ -17,21 +18,12 @@ public final class FaultsTest {
         CHECK.end();
     }
 
-    // A text with '^' where the FAULT is due.
     private static void bad(int number, String marked) {
-        int place = marked.indexOf('^');
-        String text = marked.replace("^", "");
-        SalePlaces x = new SalePlaces();
-        CHECK.told(marked, x, Check.read(x, text), -1, 4);
-        CHECK.same(marked + ", fault", x.fault(), number);
-        CHECK.same(marked + ", where", x.where(), place);
+        TEXTS.bad(number, marked);
     }
 
     private static void fine(int places, String text) {
-        SalePlaces x = new SalePlaces();
-        CHECK.told(text, x, Check.read(x, text), places, 0);
-        CHECK.same(text + ", fault", x.fault(), 0);
-        CHECK.same(text + ", where", x.where(), -1);
+        TEXTS.fine(places, text);
     }
 
     private static void good() {
