@@ -29,6 +29,7 @@ public final class PointEdgesTest {
         overlap();
         points();
         stacked();
+        pointsOfASize();
         CHECK.end();
     }
 
@@ -399,5 +400,31 @@ public final class PointEdgesTest {
         x = Check.desk("desk size 2 layers 1;class c;place p layer 0");
         CHECK.told("all have none", x, x.stacked(0, 0), 9, 0);
         CHECK.told("of more than LAYERS", x, x.stacked(4, 0), 0, 0);
+    }
+
+    // "DAYS of calls are 0 .. 999, POINTS 0 .. SIZE each: else 2."
+    private static void pointsOfASize() {
+        for (int size : new int[] {2, 3, 39, 40}) {
+            int[][] due = {{0, 0, 0}, {size, size, 0}, {size, 0, 0}, {0, size, 0}, {size + 1, 0, 2}, {0, size + 1, 2},
+                {-1, 0, 2}, {0, -1, 2}, {size + 1, size + 1, 2}, {-1, size, 2}};
+            for (int[] row : due) {
+                SalePlaces x = Check.desk("desk size " + size + " layers 1;class c;place p layer 0");
+                String what = row[0] + " " + row[1] + " of size " + size;
+                refusedOrNot(what, x, x.inside(0, 999, row[0], row[1]), 0, row[2]);
+                refusedOrNot(what, x, x.onEdge(0, 999, row[0], row[1]), 0, row[2]);
+                refusedOrNot(what, x, x.settled(0, 999, row[0], row[1]), -2, row[2]);
+                refusedOrNot(what, x, x.stack(999, row[0], row[1]), 0, row[2]);
+                refusedOrNot(what, x, x.nextStack(999, row[0], row[1]), -2, row[2]);
+                refusedOrNot(what, x, x.stackRate(999, row[0], row[1], 0), 0, row[2]);
+                refusedOrNot(what, x, x.due(999, row[0], row[1], 0, 1, 1), 0, row[2]);
+                refusedOrNot(what, x, x.bestDay(999, 999, row[0], row[1], 0, 1, 1), 999, row[2]);
+                refusedOrNot(what, x, x.sale(999, row[0], row[1], 0, 1, 1), 0, row[2]);
+                CHECK.told(what, x, x.stackAt(999, row[0], row[1], 0), -1, row[2] == 0 ? 1 : 2);
+            }
+        }
+    }
+
+    private static void refusedOrNot(String what, SalePlaces x, int got, int due, int trouble) {
+        CHECK.told(what, x, got, trouble == 0 ? due : -1, trouble);
     }
 }

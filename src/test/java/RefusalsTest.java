@@ -6,9 +6,10 @@ import java.util.TreeSet;
 import java.util.function.Supplier;
 
 /**
- * Term III for every call that may be refused by its numbers: each of them at the last that is allowed
- * and the first that is not on either side, and as low and as high as an int goes; which refusal is met
- * first; that a refused call changes nothing; and that 1 comes first without a DESK.
+ * "Refusals are met in the order in which a call tells them; 1 comes first without a DESK. DAYS of calls are
+ * 0 .. 999, POINTS 0 .. SIZE each: else 2." (Term III), for every call that may be refused by its numbers: each
+ * of them at the last that is allowed and the first that is not on either side, and as low and as high as an int
+ * goes; which refusal is met first; and that a refused call changes nothing.
  */
 public final class RefusalsTest {
     private static final Check CHECK = new Check();
