@@ -10,6 +10,10 @@ public final class TextEdgesTest {
     private static final int LOW = Integer.MIN_VALUE;
     private static final int HIGH = Integer.MAX_VALUE;
     private static final String HEAD = "desk size 5 layers 2;class c;class d of c;place p layer 0;place q layer 1";
+    /** A text with every sort of LINE, and with all that a LINE may leave out. */
+    private static final String ALL = "desk size 5 layers 2 ; class c ; class d of c ; place p layer 0 only ; "
+            + "place q layer 1 ; bound p 0 none ; bound q 1 0 0 1 0 1 1 ; bound p 2 0 0 5 0 5 5 4 4 3 4 2 4 ; "
+            + "rate p c 0 5 ; holiday q d 0 9 price 5 ; cap p d 7";
 
     public static void main(String[] args) {
         tapeIsFull();
@@ -33,6 +37,8 @@ public final class TextEdgesTest {
         caps();
         names();
         form();
+        noTokenAnywhere();
+        endAnywhere();
         unknown();
         again();
         outOfBounds();
@@ -548,6 +554,53 @@ public final class TextEdgesTest {
         bad(1, HEAD + ";^tax p c 0");
         bad(1, HEAD + ";^none");
         bad(1, HEAD + ";^5");
+    }
+
+    // "1 FORM: the first byte that begins no TOKEN": ahead of each TOKEN, and at the end; more than 7 letters or 4
+    // digits begin none, either, and are no ; if one is due there.
+    private static void noTokenAnywhere() {
+        fine(2, ALL);
+        for (String sign : new String[] {"$", "abcdefgh", "desksize", "00000", "12345", "99999999999999999999"}) {
+            for (int at = 0; at < ALL.length(); at++) {
+                if (at == 0 || ALL.charAt(at - 1) == ' ') {
+                    bad(1, ALL.substring(0, at) + "^" + sign + " " + ALL.substring(at));
+                }
+            }
+            bad(1, ALL + " ^" + sign);
+            bad(1, HEAD + " ^" + sign + " class x");
+            bad(1, HEAD + ";class x ^" + sign + " class y");
+        }
+    }
+
+    // "TOKEN with which no DESK goes on (the end: its place": behind each TOKEN; a text may end with a LINE, if a
+    // CLASS and a PLACE are told.
+    private static void endAnywhere() {
+        String[] tokens = ALL.split(" ");
+        StringBuilder text = new StringBuilder();
+        for (int many = 0; many < tokens.length; many++) {
+            String told = text.toString().trim();
+            if (mayEnd(told)) {
+                fine(told.contains("place q") ? 2 : 1, told);
+            } else {
+                bad(lacksSome(told) ? 6 : 1, told + "^");
+                bad(lacksSome(told) ? 6 : 1, told + "   ^");
+            }
+            text.append(' ').append(tokens[many]);
+        }
+    }
+
+    private static boolean isWholeLine(String told) {
+        String line = told.substring(told.lastIndexOf(';') + 1).trim();
+        return line.matches("desk size 5 layers 2|class .( of .)?|place . layer .( only)?|bound . . none"
+                + "|bound . .( . .){3,6}|rate . . . .|holiday . . . . price .|cap . . .");
+    }
+
+    private static boolean mayEnd(String told) {
+        return isWholeLine(told) && !lacksSome(told);
+    }
+
+    private static boolean lacksSome(String told) {
+        return isWholeLine(told) && !(told.contains("class c") && told.contains("place p layer 0"));
     }
 
     // "2 a NAME that isn't told, or of the other sort; at it."
