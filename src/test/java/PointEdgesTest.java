@@ -20,6 +20,7 @@ public final class PointEdgesTest {
         border();
         crossings();
         onEdge();
+        besideEdges();
         nextMove();
         settled();
         stackOfAll();
@@ -240,6 +241,37 @@ public final class PointEdgesTest {
         for (int[] row : due) {
             CHECK.told("on " + row[0] + " at " + row[1] + " " + row[2], x, x.onEdge(0, row[0], row[1], row[2]), row[3],
                     0);
+        }
+    }
+
+    // "lies on one of its EDGES": not on the line of one, ahead of it or behind it, whichever way it goes.
+    private static void besideEdges() {
+        String[] bounds = {"6 1 8 1 7 5", "8 1 6 1 7 5", "1 6 1 8 5 7", "1 8 1 6 5 7", "3 3 6 6 3 6", "6 6 3 3 3 6",
+            "3 6 6 3 3 3", "6 3 3 6 3 3"};
+        int[] on = {6, 7, 8};
+        int[] off = {0, 1, 5, 9, 10};
+        StringBuilder text = new StringBuilder("desk size 10 layers 1;class c;place p layer 0");
+        for (int day = 0; day < bounds.length; day++) {
+            text.append(";bound p ").append(day).append(' ').append(bounds[day]);
+        }
+        SalePlaces x = Check.desk(text.toString());
+        for (int day = 0; day < 4; day++) {
+            // The first two EDGES go along Y 1, the other two along X 1.
+            boolean flat = day < 2;
+            for (int at : on) {
+                CHECK.told("on the EDGE of " + bounds[day], x, x.onEdge(0, day, flat ? at : 1, flat ? 1 : at), 1, 0);
+            }
+            for (int at : off) {
+                CHECK.told("beside that of " + bounds[day], x, x.onEdge(0, day, flat ? at : 1, flat ? 1 : at), 0, 0);
+            }
+        }
+        for (int day = 4; day < 8; day++) {
+            // Slopes between 3 and 6, down to the east or up to the east.
+            for (int at = 0; at < 10; at++) {
+                int y = day < 6 ? at : 9 - at;
+                int due = at >= 3 && at <= 6 ? 1 : 0;
+                CHECK.told("at " + at + " " + y + " of " + bounds[day], x, x.onEdge(0, day, at, y), due, 0);
+            }
         }
     }
 
